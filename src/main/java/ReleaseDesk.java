@@ -780,7 +780,7 @@ public final class ReleaseDesk {
         }
 
         char at(int i) {
-            return i >= 0 && i < length ? letters[i] : 0;
+            return letters[i];
         }
 
         /** Bit i of the answer tells whether this letter is character i. */

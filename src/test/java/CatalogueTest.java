@@ -124,6 +124,12 @@ final class CatalogueTest {
         due("itself does not count", desk, "10 10 10");
 
         desk = five();
+        desk.type(0, 4, 1, 0, 0);
+        desk.type(0, 0, 0, -1, 0);
+        desk.type(1, 0, 0, -1, 0);
+        due("one not seen in OLD is not lost, be it the first", desk, "");
+
+        desk = five();
         desk.type(0, 4, 0, -1, 0);
         desk.type(0, 0, 1, 4, 0);
         due("one not seen in OLD is not lost, and one seen in NEW is added", desk, "3");
@@ -217,6 +223,17 @@ final class CatalogueTest {
         desk = orphan(1, Mode.PUBLIC);
         desk.drop(1, 2);
         due("not over one that is not there", desk, "10 20");
+        desk = orphan(1, Mode.PROTECTED);
+        desk.type(1, 1, 9, -1, 0);
+        due("not what is seen in OLD alone", desk, "20 8 22");
+
+        desk = new ReleaseDesk();
+        desk.type(0, 0, 1, -1, 0);
+        desk.type(0, 7, 1, 0, 0);
+        desk.member(0, 0, false, 11, Mode.PUBLIC);
+        desk.branch();
+        desk.member(0, 7, false, 11, Mode.PUBLIC);
+        due("a field, from the first type", desk, "21");
     }
 
     private static void members() {
