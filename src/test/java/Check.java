@@ -1,6 +1,12 @@
 /** Counts the answers that are not as due, and ends a test's program by them. */
 final class Check {
+    private String about = "";
     private int wrong;
+
+    /** What is checked from here on is for these words of the document, under this promise. */
+    void about(String promise, String sentence) {
+        about = promise + ", \"" + sentence + "\": ";
+    }
 
     void same(String call, long got, long due) {
         if (got != due) {
@@ -34,7 +40,7 @@ final class Check {
 
     private void tell(String call, String got, String due) {
         wrong++;
-        System.out.println(call + " answered " + got + ", due is " + due);
+        System.out.println(about + call + " answered " + got + ", due is " + due);
     }
 
     void end() {
