@@ -277,7 +277,5 @@ final class CatalogueTest {
         due("the two zeros are one number", desk, "");
         desk.constant(1, 0, 0, Double.NaN);
         due("a number and none", desk, "31");
-        desk.constant(0, 0, 0, Double.NaN);
-        due("a NaN that stays", desk, "");
     }
 }
