@@ -6,6 +6,7 @@ final class DropEdgesTest {
     public static void main(String[] args) {
         Check check = new Check();
         dropsOneAlone(check);
+        staysSuperAndFace(check);
         dropsItsMembers(check);
         notThere(check);
         dropsTwice(check);
@@ -35,6 +36,22 @@ final class DropEdgesTest {
                         desk.fits(1 - build, u, Mode.METHOD, -1), 0);
                 }
             }
+        }
+    }
+
+    /** Other types keep it as a SUPER or FACE, THERE or not, so it is above them when it comes again. */
+    private static void staysSuperAndFace(Check check) {
+        check.about(PROMISE, "TYPE t of a BUILD is THERE no more");
+        for (int way = 0; way < 2; way++) {
+            ReleaseDesk desk = Mode.deskWithType();
+            desk.type(0, 7, PUBLIC, -1, 0);
+            desk.type(1, 7, PUBLIC, -1, 0);
+            desk.type(1, 0, PUBLIC, way == 0 ? 7 : -1, way == 0 ? 0 : 1 << 7);
+            check.text("above", Told.codes(desk), "11");
+            desk.drop(1, 7);
+            check.text("dropped", Told.codes(desk), "1");
+            desk.type(1, 7, PUBLIC, -1, 0);
+            check.text("come again", Told.codes(desk), "11");
         }
     }
 

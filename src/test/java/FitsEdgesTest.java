@@ -10,6 +10,7 @@ final class FitsEdgesTest {
         theType(check);
         asItIs(check);
         refused(check);
+        refusedThoughNotThere(check);
         none(check);
         memberNeedNotBe(check);
         changesNothing(check);
@@ -106,6 +107,14 @@ final class FitsEdgesTest {
     private static void refused(Check check, int build, int t, boolean method, int sign) {
         Unchanged.onBusyDesk(check, "fits(" + build + ", " + t + ", " + method + ", " + sign + ")",
             ReleaseDesk.REFUSED, desk -> desk.fits(build, t, method, sign));
+    }
+
+    private static void refusedThoughNotThere(Check check) {
+        check.about(PROMISE, "REFUSED if a number is not as said");
+        for (int wrong : Told.outside(-1, 11)) {
+            check.same("sign " + wrong + " of a type not there",
+                new ReleaseDesk().fits(0, 0, Mode.METHOD, wrong), ReleaseDesk.REFUSED);
+        }
     }
 
     private static void none(Check check) {

@@ -11,6 +11,7 @@ final class MemberChangesEdgesTest {
         removed(check);
         inheritedAccess(check);
         inheritedFromAbove(check);
+        inheritedFromEachType(check);
         inheritedWhereAboveInNew(check);
         inheritedOfThisKindAndSign(check);
         inheritedIfSeen(check);
@@ -82,6 +83,23 @@ final class MemberChangesEdgesTest {
             desk.member(1, 7, Mode.METHOD, 0, Mode.PROTECTED);
             desk.member(0, 7, Mode.METHOD, 0, Mode.PROTECTED);
             check.text("none of them has", Told.allCodes(desk), "20");
+        }
+    }
+
+    private static void inheritedFromEachType(Check check) {
+        check.about(PROMISE, INHERITED);
+        for (int t = 0; t < 8; t++) {
+            for (int above = 0; above < 8; above++) {
+                ReleaseDesk desk = new ReleaseDesk();
+                desk.type(0, above, 1, -1, 0);
+                desk.member(0, above, Mode.FIELD, 0, OPEN);
+                desk.type(0, t, 1, -1, 1 << above);
+                desk.branch();
+                desk.remove(1, t, Mode.FIELD, 0);
+                desk.member(0, t, Mode.FIELD, 0, OPEN);
+                check.text("type " + t + " from type " + above, Told.allCodes(desk),
+                    t == above ? "20" : "21");
+            }
         }
     }
 

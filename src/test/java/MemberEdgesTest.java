@@ -1,6 +1,7 @@
 /** Promise 4, each of its words that name a boundary. */
 final class MemberEdgesTest {
     private static final String PROMISE = "Promise 4";
+    private static final String WRONG = "false if a number is not as said";
     private static final int PUBLIC = Mode.PUBLIC_TYPE;
 
     public static void main(String[] args) {
@@ -13,6 +14,8 @@ final class MemberEdgesTest {
         takesThePlace(check);
         oneOfEachKindAndSign(check);
         wrongPlaces(check);
+        wrongSigns(check);
+        wrongModes(check);
         notThere(check);
         check.end();
     }
@@ -37,10 +40,6 @@ final class MemberEdgesTest {
                     check.same("the type", desk.change(0, 2), t);
                 }
             }
-            for (int wrong : Told.outside(0, 11)) {
-                refused(check, 0, 0, method, wrong, Mode.PUBLIC);
-                refused(check, 1, 0, method, wrong, Mode.PUBLIC);
-            }
         }
     }
 
@@ -51,10 +50,6 @@ final class MemberEdgesTest {
             check.yes("mode 0", desk.member(0, 0, method, 0, 0));
             check.yes("mode 31", desk.member(0, 0, method, 1, 31));
             check.same("both are there", desk.branch(), 2);
-            for (int wrong : Told.outside(0, 31)) {
-                refused(check, 0, 0, method, 0, wrong);
-                refused(check, 1, 1, method, 11, wrong);
-            }
         }
     }
 
@@ -140,7 +135,7 @@ final class MemberEdgesTest {
     }
 
     private static void wrongPlaces(Check check) {
-        check.about(PROMISE, "false if a number is not as said");
+        check.about(PROMISE, WRONG);
         for (boolean method : new boolean[] {Mode.FIELD, Mode.METHOD}) {
             for (int wrong : Told.outside(0, 7)) {
                 refused(check, 0, wrong, method, 3, Mode.PUBLIC);
@@ -150,6 +145,32 @@ final class MemberEdgesTest {
                 refused(check, wrong, 0, method, 3, Mode.PUBLIC);
                 refused(check, wrong, 7, method, 3, Mode.PUBLIC);
             }
+        }
+    }
+
+    private static void wrongSigns(Check check) {
+        check.about(PROMISE, WRONG);
+        for (boolean method : new boolean[] {Mode.FIELD, Mode.METHOD}) {
+            for (int wrong : Told.outside(0, 11)) {
+                refused(check, 0, 0, method, wrong, Mode.PUBLIC);
+                refused(check, 1, 0, method, wrong, Mode.PUBLIC);
+            }
+            // Beside the signs of one kind stand, in some orders, those of the other kind.
+            refused(check, 0, 0, method, 23, Mode.PUBLIC);
+            refused(check, 0, 0, method, -12, Mode.PUBLIC);
+        }
+    }
+
+    private static void wrongModes(Check check) {
+        check.about(PROMISE, WRONG);
+        for (boolean method : new boolean[] {Mode.FIELD, Mode.METHOD}) {
+            for (int wrong : Told.outside(0, 31)) {
+                refused(check, 0, 0, method, 0, wrong);
+                refused(check, 0, 0, method, 7, wrong);
+                refused(check, 1, 1, method, 11, wrong);
+            }
+            refused(check, 0, 0, method, 0, 40);
+            refused(check, 0, 0, method, 0, 32 + Mode.PROTECTED);
         }
     }
 

@@ -169,7 +169,8 @@ final class ReportEdgesTest {
         check.about(TERMS, NUMBERS);
         for (int weight = 1; weight <= 3; weight++) {
             for (int count : new int[] {9, 10, 11, 99, 100, 101, 192}) {
-                String due = weight == 3 ? count + " 0 0" : weight == 2 ? "0 " + count + " 0" : "0 0 " + count;
+                String due = (weight == 3 ? count : 0) + " " + (weight == 2 ? count : 0) + " "
+                    + (weight == 1 ? count : 0);
                 ReleaseDesk desk = members(count, weight);
                 int length = desk.report(false, -1);
                 StringBuilder tail = new StringBuilder();

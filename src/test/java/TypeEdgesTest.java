@@ -1,6 +1,7 @@
 /** Promise 2, each of its words that name a boundary. */
 final class TypeEdgesTest {
     private static final String PROMISE = "Promise 2";
+    private static final String WRONG = "False if a number is not as said";
     private static final int PUBLIC = Mode.PUBLIC_TYPE;
 
     public static void main(String[] args) {
@@ -16,12 +17,11 @@ final class TypeEdgesTest {
         keepsMembers(check);
         keepsNoneOfADroppedType(check);
         takesThePlace(check);
+        wrongPlaces(check);
+        wrongFlags(check);
+        wrongSupers(check);
+        wrongFaces(check);
         check.end();
-    }
-
-    private static void refused(Check check, int build, int t, int flags, int above, int faces) {
-        String told = "type(" + build + ", " + t + ", " + flags + ", " + above + ", " + faces + ")";
-        Unchanged.by(check, told, 0, desk -> Told.bit(desk.type(build, t, flags, above, faces)));
     }
 
     private static void types(Check check) {
@@ -35,10 +35,6 @@ final class TypeEdgesTest {
                 check.same("drop of type " + u, Told.bit(desk.drop(0, u)), u == t ? 1 : 0);
             }
         }
-        for (int t : Told.outside(0, 7)) {
-            refused(check, 0, t, PUBLIC, -1, 0);
-            refused(check, 1, t, PUBLIC, -1, 0);
-        }
     }
 
     private static void builds(Check check) {
@@ -50,10 +46,6 @@ final class TypeEdgesTest {
             check.same("fits in the other", desk.fits(1 - build, 4, Mode.METHOD, -1), ReleaseDesk.NONE);
             check.same("the code", desk.change(0, 0), build == 0 ? 1 : 3);
         }
-        for (int build : Told.outside(0, 1)) {
-            refused(check, build, 0, PUBLIC, -1, 0);
-            refused(check, build, 7, PUBLIC, -1, 0);
-        }
     }
 
     private static void packages(Check check) {
@@ -64,10 +56,6 @@ final class TypeEdgesTest {
             check.yes("flags " + flags[k], desk.type(1, 3, flags[k], -1, 0));
             Told.spell(desk, "abc".charAt(k / 2) + ".D");
             check.same("fits with flags " + flags[k], desk.fits(1, 3, Mode.METHOD, -1), 1);
-        }
-        for (int wrong : Told.outside(0, 47)) {
-            refused(check, 0, 0, wrong, -1, 0);
-            refused(check, 1, 5, wrong, -1, 0);
         }
     }
 
@@ -106,10 +94,6 @@ final class TypeEdgesTest {
                 check.text("super " + above + " where " + seen + " is seen", Told.codes(desk),
                     seen == above ? "11" : "");
             }
-        }
-        for (int wrong : Told.outside(-1, 7)) {
-            refused(check, 0, 0, PUBLIC, wrong, 0);
-            refused(check, 1, 0, PUBLIC, wrong, 0);
         }
     }
 
@@ -151,10 +135,6 @@ final class TypeEdgesTest {
                 check.text("faces " + faces + " where " + seen + " is seen", Told.codes(desk),
                     won ? "11" : "");
             }
-        }
-        for (int wrong : Told.outside(0, 255)) {
-            refused(check, 0, 0, PUBLIC, -1, wrong);
-            refused(check, 1, 0, PUBLIC, -1, wrong);
         }
     }
 
@@ -212,5 +192,54 @@ final class TypeEdgesTest {
         check.text("so an older face is new", Told.allCodes(desk), "11");
         desk.type(1, 0, PUBLIC, 1, 64);
         check.text("so the older super is new", Told.allCodes(desk), "10 11");
+    }
+
+    private static void refused(Check check, int build, int t, int flags, int above, int faces) {
+        String told = "type(" + build + ", " + t + ", " + flags + ", " + above + ", " + faces + ")";
+        Unchanged.by(check, told, 0, desk -> Told.bit(desk.type(build, t, flags, above, faces)));
+    }
+
+    private static void wrongPlaces(Check check) {
+        check.about(PROMISE, WRONG);
+        for (int t : Told.outside(0, 7)) {
+            refused(check, 0, t, PUBLIC, -1, 0);
+            refused(check, 1, t, 47, 7, 255);
+        }
+        for (int build : Told.outside(0, 1)) {
+            refused(check, build, 0, PUBLIC, -1, 0);
+            refused(check, build, 7, 47, 7, 255);
+        }
+    }
+
+    // Besides the wrong number, the calls bear others than those that the types have.
+
+    private static void wrongFlags(Check check) {
+        check.about(PROMISE, WRONG);
+        for (int wrong : Told.outside(0, 47)) {
+            refused(check, 0, 0, wrong, -1, 0);
+            refused(check, 0, 1, wrong, 2, 255);
+            refused(check, 1, 0, wrong, 2, 255);
+            refused(check, 1, 5, wrong, 2, 255);
+        }
+    }
+
+    private static void wrongSupers(Check check) {
+        check.about(PROMISE, WRONG);
+        for (int wrong : Told.outside(-1, 7)) {
+            refused(check, 0, 0, PUBLIC, wrong, 0);
+            refused(check, 0, 1, 31, wrong, 255);
+            refused(check, 1, 0, 46, wrong, 255);
+            refused(check, 1, 5, PUBLIC, wrong, 255);
+        }
+    }
+
+    private static void wrongFaces(Check check) {
+        check.about(PROMISE, WRONG);
+        for (int wrong : Told.outside(0, 255)) {
+            refused(check, 0, 0, PUBLIC, -1, wrong);
+            refused(check, 0, 1, 31, 2, wrong);
+            refused(check, 1, 0, 46, 2, wrong);
+            refused(check, 1, 5, PUBLIC, 2, wrong);
+        }
     }
 }
