@@ -10,7 +10,8 @@ final class ListEdgesTest {
         Check check = new Check();
         empty(check);
         countsEach(check);
-        longest(check);
+        longList(check);
+        fullest(check);
         asAllStandsNow(check);
         weightAboveNone(check);
         heaviestFirst(check);
@@ -55,8 +56,8 @@ final class ListEdgesTest {
         }
     }
 
-    /** All types and members twice, which 512 calls can do, and as many changes of each as there are. */
-    private static void longest(Check check) {
+    /** All types and members twice, which 512 calls can do, with changes of one weight alone. */
+    private static void longList(Check check) {
         check.about(PROMISE, "How many CHANGES the LIST has");
         ReleaseDesk desk = new ReleaseDesk();
         for (int t = 0; t < 8; t++) {
@@ -91,6 +92,26 @@ final class ListEdgesTest {
             check.same("its last code", desk.change(first + 3, 0), 10);
             check.same("the member behind it", desk.change(first + 4, 3), 2);
         }
+    }
+
+    private static void fullest(Check check) {
+        check.about(PROMISE, "How many CHANGES the LIST has");
+        ReleaseDesk desk = Fullest.desk();
+        int most = Fullest.CHANGES;
+        int breaks = Fullest.BREAKS;
+        int notLight = breaks + Fullest.WARNINGS;
+        check.same("with all that there can be", desk.list(), most);
+        check.same("the first code", desk.change(0, 0), 4);
+        check.same("the weight of the last break", desk.change(breaks - 1, 1), 3);
+        check.same("of the first warning", desk.change(breaks, 1), 2);
+        check.same("of the last one", desk.change(notLight - 1, 1), 2);
+        check.same("of the first note", desk.change(notLight, 1), 1);
+        check.same("the code of it", desk.change(notLight, 0), 11);
+        check.same("the last code", desk.change(most - 1, 0), 25);
+        check.same("the last type", desk.change(most - 1, 2), 7);
+        check.same("the last kind", desk.change(most - 1, 3), 1);
+        check.same("the last sign", desk.change(most - 1, 4), 10);
+        check.same("one behind it", desk.change(most, 0), ReleaseDesk.NONE);
     }
 
     private static void asAllStandsNow(Check check) {

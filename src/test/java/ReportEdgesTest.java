@@ -28,7 +28,8 @@ final class ReportEdgesTest {
         commas(check);
         adviceInJson(check);
         noOtherCharacters(check);
-        longest(check);
+        longReport(check);
+        fullest(check);
         changesNothing(check);
         check.end();
     }
@@ -242,7 +243,7 @@ final class ReportEdgesTest {
             "B c.H 6\nB c.H.d(int,long) 20\nN c.H.d:double 23\n2 0 1");
     }
 
-    /** All members with the longest report that they can have. */
+    /** A desk with changes of all types and members, each of them a break. */
     private static ReleaseDesk all() {
         ReleaseDesk desk = new ReleaseDesk();
         for (int t = 0; t < 8; t++) {
@@ -281,7 +282,7 @@ final class ReportEdgesTest {
     }
 
     /** Too long for one desk to tell all of, so desks that are the same tell a stretch each. */
-    private static void longest(Check check) {
+    private static void longReport(Check check) {
         check.about(PROMISE, "with k = -1 how many it has; NONE for another k");
         String lines = allNames("B ", " ") + "704 0 0";
         String json = "{\"changes\":[" + allNames("{\"w\":3,\"n\":\"", "\",\"c\":").trim()
@@ -297,6 +298,26 @@ final class ReportEdgesTest {
                 }
             }
         }
+    }
+
+    private static void fullest(Check check) {
+        check.about(TERMS, NUMBERS);
+        // The names of all methods of a type are 128 characters long, of all its fields 124. Beside a
+        // name stand 4 characters and the code in lines, 19 and the code, and a comma, in JSON.
+        int names = 6 * 3 + 4 * (128 + 124);
+        int codes = 4 * 1 + 2 * 2 + 96 * 2;
+        int lines = 8 * (names + codes + 102 * 4) + "520 96 200".length();
+        int json = 8 * (names + codes + 102 * 20) - 1 + "{\"changes\":[],\"advice\":\"2.0.0\"}".length();
+        ReleaseDesk desk = Fullest.desk();
+        check.same("how many in lines", desk.report(false, -1), lines);
+        check.same("how many in JSON", desk.report(true, -1), json);
+        check.same("behind the last in lines", desk.report(false, lines), ReleaseDesk.NONE);
+        check.same("behind the last in JSON", desk.report(true, json), ReleaseDesk.NONE);
+        StringBuilder tail = new StringBuilder();
+        for (int k = lines - 11; k < lines; k++) {
+            tail.append((char) desk.report(false, k));
+        }
+        check.text("the three numbers", tail.toString(), "\n520 96 200");
     }
 
     private static void changesNothing(Check check) {
